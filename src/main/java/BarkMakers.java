@@ -421,8 +421,7 @@ public final class BarkMakers {
             }
             int row = size;
             size++;
-            int end = Math.min(size * width, cells.length);
-            for (int at = row * width; at >= 0 && at < end; at++) {
+            for (int at = row * width; at >= 0 && at < size * width && at < cells.length; at++) {
                 cells[at] = 0;
             }
             return row;
@@ -626,21 +625,22 @@ public final class BarkMakers {
         private static final String KEYWORDS =
             "bark raw fibre beater hand every spirit folds cuts price soak by beat on cut from when hour soaked board sheets figures coins weather not and or min max ";
         private static final String SIGNS = "()[];,+-*/<>=";
-        private static final int KIND = 0;
-        private static final int START = 1;
-        private static final int VALUE = 2;
+        private static final int START = 0;
+        private static final int VALUE = 1;
         private static final int LONGEST_WORD = 10;
         private static final int LONGEST_NUMBER = 6;
 
         private final Tape tape;
         private final Names keywords;
         private final Table rows;
+        private final int[] kinds;
         private final long[] codes;
         private int position;
 
         Tokens(Tape tape) {
             this.tape = tape;
-            rows = new Table(3, MOST_TOKENS + 1);
+            rows = new Table(2, MOST_TOKENS + 1);
+            kinds = new int[MOST_TOKENS + 1];
             codes = new long[MOST_TOKENS + 1];
             position = 0;
             keywords = new Names(Kind.MAX);
@@ -674,7 +674,7 @@ public final class BarkMakers {
         }
 
         int kind(int token) {
-            return rows.get(token, KIND);
+            return token >= 0 && token < kinds.length ? kinds[token] : Kind.BAD;
         }
 
         int start(int token) {
@@ -703,7 +703,9 @@ public final class BarkMakers {
                 int token = rows.add();
                 rows.set(token, START, position);
                 int kind = readToken(token);
-                rows.set(token, KIND, kind);
+                if (token >= 0 && token < kinds.length) {
+                    kinds[token] = kind;
+                }
                 goesOn = kind != Kind.END && kind != Kind.BAD;
             }
         }
@@ -978,7 +980,7 @@ public final class BarkMakers {
         private boolean readTest(int depth) {
             boolean fits = readBoth(depth);
             for (int n = 0; n < MOST_TOKENS && fits && kind() == Kind.OR; n++) {
-                fits = take(Kind.OR) && readBoth(depth) && operation(Kind.OR, 2);
+                fits = take(Kind.OR) && readBoth(depth) && write(Kind.OR, 0, 2);
             }
             return fits;
         }
@@ -986,7 +988,7 @@ public final class BarkMakers {
         private boolean readBoth(int depth) {
             boolean fits = readSingle(depth);
             for (int n = 0; n < MOST_TOKENS && fits && kind() == Kind.AND; n++) {
-                fits = take(Kind.AND) && readSingle(depth) && operation(Kind.AND, 2);
+                fits = take(Kind.AND) && readSingle(depth) && write(Kind.AND, 0, 2);
             }
             return fits;
         }
@@ -994,28 +996,25 @@ public final class BarkMakers {
         private boolean readSingle(int depth) {
             switch (kind()) {
                 case Kind.NOT:
-                    return deepen(Kind.NOT, depth) && readSingle(depth + 1) && operation(Kind.NOT, 1);
+                    return depth < DEEPEST && take(Kind.NOT) && readSingle(depth + 1) && write(Kind.NOT, 0, 1);
                 case Kind.OPEN_TEST:
-                    return deepen(Kind.OPEN_TEST, depth) && readTest(depth + 1) && take(Kind.CLOSE_TEST);
+                    return depth < DEEPEST && take(Kind.OPEN_TEST) && readTest(depth + 1) && take(Kind.CLOSE_TEST);
                 default:
-                    return readComparison(depth);
+                    break;
             }
-        }
-
-        private boolean readComparison(int depth) {
             if (!readSum(depth)) {
                 return false;
             }
             int kind = kind();
             boolean compares = kind >= Kind.LESS && kind <= Kind.AT_LEAST;
-            return compares && take(kind) && readSum(depth) && operation(kind, 2);
+            return compares && take(kind) && readSum(depth) && write(kind, 0, 2);
         }
 
         private boolean readSum(int depth) {
             boolean fits = readProduct(depth);
             for (int n = 0; n < MOST_TOKENS && fits && (kind() == Kind.PLUS || kind() == Kind.MINUS); n++) {
                 int kind = kind();
-                fits = take(kind) && readProduct(depth) && operation(kind, 2);
+                fits = take(kind) && readProduct(depth) && write(kind, 0, 2);
             }
             return fits;
         }
@@ -1024,7 +1023,7 @@ public final class BarkMakers {
             boolean fits = readValue(depth);
             for (int n = 0; n < MOST_TOKENS && fits && (kind() == Kind.TIMES || kind() == Kind.OVER); n++) {
                 int kind = kind();
-                fits = take(kind) && readValue(depth) && operation(kind, 2);
+                fits = take(kind) && readValue(depth) && write(kind, 0, 2);
             }
             return fits;
         }
@@ -1036,21 +1035,21 @@ public final class BarkMakers {
                 case Kind.HOUR:
                 case Kind.COINS:
                 case Kind.WEATHER:
-                    return take(kind) && leaf(kind);
+                    return take(kind) && write(kind, tokens.value(token - 1), 0);
                 case Kind.RAW:
                 case Kind.SOAKED:
                 case Kind.BOARD:
                 case Kind.SHEETS:
                 case Kind.FIGURES:
-                    return take(kind) && take(Kind.NAME) && leaf(kind);
+                    return take(kind) && take(Kind.NAME) && write(kind, tokens.value(token - 1), 0);
                 case Kind.MINUS:
-                    return deepen(kind, depth) && readValue(depth + 1) && operation(Kind.TURN, 1);
+                    return depth < DEEPEST && take(kind) && readValue(depth + 1) && write(Kind.TURN, 0, 1);
                 case Kind.OPEN:
-                    return deepen(kind, depth) && readSum(depth + 1) && take(Kind.CLOSE);
+                    return depth < DEEPEST && take(kind) && readSum(depth + 1) && take(Kind.CLOSE);
                 case Kind.MIN:
                 case Kind.MAX:
-                    return take(kind) && deepen(Kind.OPEN, depth) && readSum(depth + 1) && take(Kind.COMMA)
-                        && readSum(depth + 1) && take(Kind.CLOSE) && operation(kind, 2);
+                    return take(kind) && depth < DEEPEST && take(Kind.OPEN) && readSum(depth + 1)
+                        && take(Kind.COMMA) && readSum(depth + 1) && take(Kind.CLOSE) && write(kind, 0, 2);
                 default:
                     return false;
             }
@@ -1066,11 +1065,6 @@ public final class BarkMakers {
             }
             token++;
             return true;
-        }
-
-        /** Takes a token behind which it is one deeper than here. */
-        private boolean deepen(int kind, int depth) {
-            return depth < DEEPEST && take(kind);
         }
 
         private boolean takeNumber(int keyword, Table table, int row, int column) {
@@ -1089,15 +1083,7 @@ public final class BarkMakers {
             return true;
         }
 
-        /** Writes down a value; the token taken last tells which. */
-        private boolean leaf(int kind) {
-            return write(kind, tokens.value(token - 1), 0);
-        }
-
-        private boolean operation(int kind, int sides) {
-            return write(kind, 0, sides);
-        }
-
+        /** Writes down a step that takes so many sides from the stack: a value takes none. It always fits. */
         private boolean write(int kind, int value, int sides) {
             int step = draft.code.add();
             draft.code.set(step, Lore.STEP, kind);
@@ -1300,7 +1286,8 @@ public final class BarkMakers {
 
         private void soak() {
             for (int order = 0; order < lore.orders.size(); order++) {
-                if (lore.orders.get(order, Lore.ORDER) == Kind.SOAK && holds(order)) {
+                if (lore.orders.get(order, Lore.ORDER) == Kind.SOAK
+                        && reckon(order, Lore.TEST, Lore.TEST_END) != 0) {
                     int bark = lore.orders.get(order, Lore.WHOSE);
                     int raw = mountain.barks.get(bark, Mountain.RAW);
                     int soaked = mountain.barks.get(bark, Mountain.SOAKED);
@@ -1334,7 +1321,8 @@ public final class BarkMakers {
             }
             for (int order = 0; order < lore.orders.size(); order++) {
                 if (lore.orders.get(order, Lore.ORDER) == Kind.BEAT
-                        && lore.orders.get(order, Lore.WHOSE) == beater && holds(order)) {
+                        && lore.orders.get(order, Lore.WHOSE) == beater
+                        && reckon(order, Lore.TEST, Lore.TEST_END) != 0) {
                     return lore.orders.get(order, Lore.WHERE);
                 }
             }
@@ -1401,7 +1389,8 @@ public final class BarkMakers {
 
         private void cut() {
             for (int order = 0; order < lore.orders.size(); order++) {
-                if (lore.orders.get(order, Lore.ORDER) == Kind.CUT && !mountain.figures.isFull() && holds(order)) {
+                if (lore.orders.get(order, Lore.ORDER) == Kind.CUT && !mountain.figures.isFull()
+                        && reckon(order, Lore.TEST, Lore.TEST_END) != 0) {
                     int spirit = lore.orders.get(order, Lore.WHOSE);
                     int sheet = sheetFor(spirit, lore.orders.get(order, Lore.WHERE));
                     if (sheet >= 0) {
@@ -1461,10 +1450,6 @@ public final class BarkMakers {
         int paidFor(int figure) {
             int spirit = mountain.figures.get(figure, Mountain.SPIRIT);
             return lore.spirits.get(spirit, Lore.PRICE) + mountain.figures.get(figure, Mountain.BEAUTY) / 4;
-        }
-
-        private boolean holds(int order) {
-            return reckon(order, Lore.TEST, Lore.TEST_END) != 0;
         }
 
         /** What an order's steps come to; 1 without any, as an order without a test always holds. */

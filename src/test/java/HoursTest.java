@@ -6,6 +6,7 @@ public final class HoursTest {
   public static void main(String[] args) {
     arguments();
     sums();
+    deepSums();
     tests();
     soaking();
     choosing();
@@ -19,6 +20,8 @@ public final class HoursTest {
     thirtyFigures();
     tourists();
     dearestFirst();
+    dearestInTheMiddle();
+    twoBarks();
     Check.finish();
   }
 
@@ -62,6 +65,19 @@ public final class HoursTest {
     sum("999999", 60);
   }
 
+  /** The last of 24 orders, with sums as deep as they may be. */
+  private static void deepSums() {
+    StringBuilder list = new StringBuilder("bark a raw 0 fibre 1; bark c raw 60 fibre 1;");
+    for (int n = 0; n < 23; n++) {
+      list.append("soak a by 1 when 1 < 2;");
+    }
+    String sum = "0 + 1 * min(9, ".repeat(8) + "7" + ")".repeat(8);
+    String test = "1 = 2 or 1 = 1 and 8 > " + sum;
+    BarkMakers x = Check.taught(list + "soak c by " + sum + " when " + test + ";");
+    x.pass(1);
+    Check.same("soaked by a deep sum", x.bark(1, 1), 7);
+  }
+
   private static void test(String test, int due) {
     BarkMakers x = Check.taught("bark a raw 60 fibre 1; soak a by 1 when " + test + ";");
     x.pass(1);
@@ -81,6 +97,12 @@ public final class HoursTest {
     test("2 = 1", 0);
     test("not 2 = 1", 1);
     test("not 2 = 2", 0);
+    test("not 1 < 2", 0);
+    test("not 2 > 1", 0);
+    test("not 1 <= 2", 0);
+    test("not 2 >= 1", 0);
+    test("1 < 2 and 2 = 2", 1);
+    test("3 > 2 and 1 <= 2 and 2 >= 1 and not 1 = 2", 1);
     test("not not 2 = 2", 1);
     test("1 = 1 or 1 = 1 and 1 = 2", 1);
     test("[1 = 1 or 1 = 1] and 1 = 2", 0);
@@ -334,5 +356,43 @@ public final class HoursTest {
     Check.same("sold of s", x.spirit(0, 4), 0);
     Check.same("sold of t", x.spirit(1, 4), 1);
     Check.same("sold of u", x.spirit(2, 4), 2);
+  }
+
+  private static void dearestInTheMiddle() {
+    BarkMakers x = Check.taught("bark a raw 500 fibre 1; beater b hand 9 every 1;"
+        + "spirit s folds 0 cuts 1 price 50; spirit t folds 0 cuts 1 price 10; cut s from a when hour = 5; cut t from a; soak a by 60; beat b on a;");
+    x.setTourists(1);
+    x.pass(7);
+    int[] spirits = {1, 0, 1};
+    for (int figure = 0; figure < 3; figure++) {
+      Check.same("spirit of " + figure, x.figure(figure, 0), spirits[figure]);
+    }
+    Check.same("the one in the middle is bought", x.pass(1), 50);
+    Check.same("none of it is left", x.spirit(0, 3), 0);
+  }
+
+  /** Each bark has a board, sheets and figures of its own; boards go by the numbers of their barks. */
+  private static void twoBarks() {
+    BarkMakers x = Check.taught("bark a raw 500 fibre 1; bark c raw 500 fibre 2; beater k hand 9 every 1; beater l hand 9 every 1;"
+        + "beater m hand 9 every 1; beater n hand 9 every 1; spirit s folds 0 cuts 4 price 1; spirit t folds 0 cuts 8 price 1;"
+        + "cut s from c; cut t from a when figures s > 1; soak c by 60; soak a by 60; beat k on c; beat l on c; beat m on a; beat n on a;");
+    x.pass(1);
+    Check.same("20 pulp of a", x.bark(0, 4), 2);
+    Check.same("10 pulp of c", x.bark(1, 4), 1);
+    int[] barks = {0, 0, 1};
+    int[] thick = {2, 2, 3};
+    for (int sheet = 0; sheet < 3; sheet++) {
+      Check.same("bark of sheet " + sheet, x.sheet(sheet, 0), barks[sheet]);
+      Check.same("sheet " + sheet + " is thick", x.sheet(sheet, 1), thick[sheet]);
+    }
+    x.pass(3);
+    Check.same("cut from c", x.spirit(0, 3), 1);
+    Check.same("not from a yet", x.spirit(1, 3), 0);
+    Check.same("all of a are left", x.bark(0, 4), 8);
+    Check.same("one of c is gone", x.bark(1, 4), 3);
+    x.pass(1);
+    Check.same("two cut from c", x.spirit(0, 3), 2);
+    Check.same("then from a", x.spirit(1, 3), 1);
+    Check.same("beauty of it", x.figure(2, 1), 6);
   }
 }

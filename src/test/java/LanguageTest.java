@@ -7,6 +7,7 @@ public final class LanguageTest {
     feed();
     trim();
     teachReplaces();
+    teachTheSameAgain();
     teachWithErrorKeeps();
     tokens();
     grammar();
@@ -86,6 +87,36 @@ public final class LanguageTest {
     Check.same("nothing told", x.count(3), 0);
   }
 
+  /** Nothing of a list that was read ahead counts for the next one. */
+  private static void teachTheSameAgain() {
+    StringBuilder list = new StringBuilder("bark a raw 0 fibre 1; bark c raw 500 fibre 1;");
+    for (char name = 'u'; name <= 'z'; name++) {
+      list.append("beater ").append(name).append(" hand 9 every 1;");
+      list.append("spirit ").append(name).append(" folds 0 cuts 1 price 1;");
+    }
+    for (int n = 0; n < 20; n++) {
+      list.append("soak c by 2 when 1 < 2;");
+    }
+    BarkMakers x = Check.taught(list.toString());
+    for (int n = 0; n < 5; n++) {
+      Check.write(x, list.toString());
+      Check.same("teach the same again", x.teach(), 0);
+      Check.same("orders of it", x.count(6), 20);
+      Check.same("beaters of it", x.count(4), 6);
+      x.pass(1);
+      Check.same("soaked by 20 orders", x.bark(1, 1), 40);
+    }
+    x.tune(0, 6);
+    Check.write(x, "beater u hand 8 every 5;");
+    Check.same("teach one beater", x.teach(), 0);
+    Check.same("his hand", x.beater(0, 0), 8);
+    Check.same("his hours", x.beater(0, 1), 5);
+    Check.write(x, "bark z raw 1 fibre 1; soak z by 1;");
+    Check.same("names told in the list ahead are gone", x.teach() * 10 + x.count(4), 0);
+    Check.write(x, "beat u on z;");
+    Check.same("nor known", x.teach() * 100 + x.errorAt(), 305);
+  }
+
   private static void teachWithErrorKeeps() {
     BarkMakers x = Check.taught("bark a raw 500 fibre 1; beater b hand 9 every 2; soak a by 60; beat b on a;");
     x.tune(0, 3);
@@ -119,6 +150,16 @@ public final class LanguageTest {
     Check.errorHere(BARK + "soak a by 1 when 1 =^< 2;", 1);
     Check.errorHere(BARK + "soak a by 1 when 1 <=^= 2;", 1);
     Check.errorHere(BARK + "soak a by 1 ^_;", 1);
+    Check.errorHere("^\0", 1);
+    Check.errorHere(BARK + "^\0", 1);
+    Check.errorHere(BARK + " ^\0  ", 1);
+    Check.errorHere("bark a raw ^? fibre 1;", 1);
+    Check.errorHere(BARK + "soak a by ^?;", 1);
+    Check.errorHere(BARK + "soak a by ^\0;", 1);
+    Check.errorHere(BARK + "soak a by 1 when 1 < ^A;", 1);
+    Check.errorHere(BARK + "soak a by 1 ^{;", 1);
+    Check.errorHere(BARK + "soak a by 1 ^`;", 1);
+    Check.errorHere(BARK + "soak a by 1 ^:;", 1);
   }
 
   private static void grammar() {
@@ -151,6 +192,23 @@ public final class LanguageTest {
     Check.errorHere(BARK + "soak a by 1 when [1^];", 1);
     Check.errorHere(BARK + "soak a by 1 when [1 < 2] ^< 3;", 1);
     Check.errorHere(BARK + "soak a by 1 when not not ^", 1);
+    Check.errorHere(BARK + "soak^;", 1);
+    Check.errorHere(BARK + "soak a^;", 1);
+    Check.errorHere(BARK + "soak a ^when 1 < 2;", 1);
+    Check.errorHere(BARK + "soak a by^;", 1);
+    Check.errorHere(BARK + "soak a by ^when 1 < 2;", 1);
+    Check.errorHere(BARK + "beat^;", 1);
+    Check.errorHere(BARK + "beat b^;", 1);
+    Check.errorHere(BARK + "beat b ^when 1 < 2;", 1);
+    Check.errorHere(BARK + "beat b on^;", 1);
+    Check.errorHere(BARK + "cut^;", 1);
+    Check.errorHere(BARK + "cut s^;", 1);
+    Check.errorHere(BARK + "cut s from ^when 1 < 2;", 1);
+    Check.errorHere("bark^;", 1);
+    Check.errorHere("bark a^;", 1);
+    Check.errorHere("bark a raw 9^;", 1);
+    Check.errorHere("bark a raw 9 fibre^;", 1);
+    Check.errorHere("spirit s folds 1 cuts 1^;", 1);
     Check.errorHere(BARK + "cut s ^on a;", 1);
     Check.errorHere(BARK + "beat s ^from a;", 1);
   }

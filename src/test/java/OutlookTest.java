@@ -88,6 +88,12 @@ public final class OutlookTest {
     y.pass(5);
     adviseIsTried(y, 0);
     adviseIsTried(y, 1);
+    // Two beat 20 of pulp only in the same rhythm, and only in one hour: the 48th, or the 49th, which is too late.
+    String pair = "bark a raw 500 fibre 1; beater b hand 9 every 2; beater n hand 9 every 1; soak a by 60; beat n on a when hour = 47; beat b on a when hour = 47;";
+    BarkMakers last = Check.taught(pair);
+    Check.same("48 hours count", last.advise(0), 1);
+    BarkMakers late = Check.taught(pair.replace("47", "48"));
+    Check.same("no more than 48 hours count", late.advise(0), 6);
     BarkMakers z = Check.taught(RICH);
     for (int beater = 0; beater <= 2; beater++) {
       adviseIsTried(z, beater);
@@ -138,6 +144,10 @@ public final class OutlookTest {
     Check.same("each one fewer", y.spare(10), -1);
     BarkMakers z = Check.taught("bark a raw 500 fibre 1; beater b hand 9 every 1; beater n hand 1 every 2; beater m hand 9 every 1; soak a by 60; beat b on a; beat n on a; beat m on a;");
     Check.same("who is out of step", z.spare(10), 1);
+    Check.same("nor in the next spare", y.spare(10), -1);
+    int foreseen = y.foresee(10, 3);
+    y.pass(10);
+    Check.same("nobody is spared behind it", foreseen, y.count(11));
     BarkMakers idle = Check.taught("beater b hand 9 every 1; beater n hand 1 every 2;");
     Check.same("none made with or without", idle.spare(72), 0);
   }
