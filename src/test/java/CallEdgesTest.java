@@ -2,9 +2,7 @@ import java.math.BigInteger;
 
 /** Each sentence of the promises 1 to 25 that names a boundary case, by a test of its own. */
 public final class CallEdgesTest {
-  /** Two beaters with a force of 10 on fibre 1: a sheet an hour, 2 thick, dry in the third hour behind. */
-  private static final String PAIR = "beater b hand 4 every 1;beater c hand 4 every 1;soak a by 60;beat b on a;beat c on a;";
-  private static final String SHEETS = "bark a raw 500 fibre 1;" + PAIR;
+  private static final String SHEETS = "bark a raw 500 fibre 1;" + Check.PAIR;
   private static final String FIGURES = SHEETS + "spirit s folds 0 cuts 9 price 5;spirit t folds 0 cuts 9 price 3;cut s from a;";
   private static final int LEAST = Integer.MIN_VALUE;
   private static final int MOST = Integer.MAX_VALUE;
@@ -16,6 +14,7 @@ public final class CallEdgesTest {
     trimRange();
     trimKeepsTheFirst();
     teachInThePlaceOfAll();
+    teachAgainAndAgain();
     teachErrorStays();
     errorAtOfTheLatest();
     countWhat();
@@ -57,12 +56,6 @@ public final class CallEdgesTest {
     firstExceptionIsThrown();
     call512();
     Check.finish();
-  }
-
-  private static BarkMakers passed(String list, int hours) {
-    BarkMakers x = Check.taught(list);
-    x.pass(hours);
-    return x;
   }
 
   private interface OfInt {
@@ -180,7 +173,7 @@ public final class CallEdgesTest {
 
   /** "Reads the tape as a list, in the place of all that was told before ..." */
   private static void teachInThePlaceOfAll() {
-    BarkMakers x = passed(FIGURES, 20);
+    BarkMakers x = Check.passed(FIGURES, 20);
     x.setWeather(1);
     x.setTourists(9);
     for (int what : new int[] {7, 9, 10, 11, 12, 13}) {
@@ -198,11 +191,36 @@ public final class CallEdgesTest {
     Check.same("sold of a spirit", x.spirit(0, 4), 0);
     Check.same("pulp", x.bark(0, 2), 0);
     Check.same("soaked", x.bark(0, 1), 0);
+    for (int n = 0; n < 3; n++) {
+      Check.write(x, FIGURES.replace("every 1", "every " + (n + 2)));
+      Check.same("teach the same names", x.teach(), 0);
+      Check.same("beaters", x.count(4), 2);
+      Check.same("every of the first one", x.beater(0, 1), n + 2);
+      Check.same("every of the last one", x.beater(1, 1), n + 2);
+      Check.same("spirits", x.count(5), 2);
+      Check.same("orders", x.count(6), 4);
+      Check.same("raw", x.bark(0, 0), 500);
+      x.tune(1, 1);
+      x.pass(1);
+    }
     Check.same("teach nothing", x.teach(), 0);
     for (int what = 3; what <= 14; what++) {
       Check.same("taught nothing, count " + what, x.count(what), 0);
     }
-    Check.same("the hour stays", x.count(0), 20);
+    Check.same("the hour stays", x.count(0), 23);
+  }
+
+  /** A list of all the tokens that it may have, in the place of one like it; nothing piles up. */
+  private static void teachAgainAndAgain() {
+    BarkMakers x = new BarkMakers();
+    for (int n = 1; n <= 12; n++) {
+      Check.write(x, "bark a raw 99 fibre 1;soak a by " + n + "+0".repeat(194) + ";");
+      Check.same("teach a long list, time " + n, x.teach(), 0);
+      x.pass(1);
+      Check.same("soaked by the sum of time " + n, x.bark(0, 1), n);
+      Check.write(x, "bark a raw 99 fibre 1;soak a by 1" + "+1".repeat(195));
+      Check.same("teach a list that is too long", x.teach(), 1);
+    }
   }
 
   /** "If it has an error, all stays (but the tape is empty)." "Returns 0, or the error, 1 to 5." */
@@ -211,8 +229,8 @@ public final class CallEdgesTest {
     String[] lists = {"?", "bark q raw 1 fibre 9;", "soak z by 1;", "soak q by 1;".repeat(24), "bark r raw 501 fibre 1;"};
     int[] places = {0, 5, 5, 23 * 12, 11};
     for (int error = 1; error <= 5; error++) {
-      BarkMakers x = passed(FIGURES, 20);
-      BarkMakers same = passed(FIGURES, 20);
+      BarkMakers x = Check.passed(FIGURES, 20);
+      BarkMakers same = Check.passed(FIGURES, 20);
       x.tune(0, 2);
       same.tune(0, 2);
       Check.write(x, head + lists[error - 1]);
@@ -248,7 +266,7 @@ public final class CallEdgesTest {
 
   /** "Throws IndexOutOfBoundsException if what is not 0 to 14" */
   private static void countWhat() {
-    BarkMakers x = passed(FIGURES, 21);
+    BarkMakers x = Check.passed(FIGURES, 21);
     x.feed(0, 0, 0, 0, 0);
     x.setWeather(5);
     x.setTourists(20);
@@ -389,7 +407,7 @@ public final class CallEdgesTest {
     Check.same("not in this hour", x.force(0), 0);
     x.pass(1);
     Check.same("with what was soaked before", x.force(0), 5);
-    Check.same("also where nothing is left to beat", passed("bark a raw 0 fibre 9;beater b hand 5 every 1;beat b on a;", 1).force(0), 5);
+    Check.same("also where nothing is left to beat", Check.passed("bark a raw 0 fibre 9;beater b hand 5 every 1;beat b on a;", 1).force(0), 5);
   }
 
   // ---- by hand
@@ -436,7 +454,7 @@ public final class CallEdgesTest {
 
   /** "if there is no such sheet", and "its bark does not come back" */
   private static void burnRange() {
-    BarkMakers x = passed(SHEETS, 3);
+    BarkMakers x = Check.passed(SHEETS, 3);
     refusedIndex("burn of 3", x, 0, 2, sheet -> x.burn(sheet));
     int[] bark = {x.bark(0, 0), x.bark(0, 1), x.bark(0, 2)};
     Check.same("burn the last one", x.burn(2), 1);
@@ -488,7 +506,7 @@ public final class CallEdgesTest {
 
   /** "Returns how many coins come in.": in these hours, not in all. */
   private static void passOnlyWhatComesIn() {
-    BarkMakers x = passed(FIGURES, 8);
+    BarkMakers x = Check.passed(FIGURES, 8);
     Check.same("coins by then", x.count(10), 18);
     Check.same("none in the next 7 hours", x.pass(7), 0);
     Check.same("three are sold in the 8th", x.pass(1), 18);
@@ -507,7 +525,7 @@ public final class CallEdgesTest {
 
   /** "0 if one is" */
   private static void until0() {
-    BarkMakers x = passed(FIGURES, 3);
+    BarkMakers x = Check.passed(FIGURES, 3);
     Check.same("in the hour ahead", x.until(0), 1);
     x.pass(1);
     Check.same("one is there", x.until(0), 0);
@@ -535,7 +553,8 @@ public final class CallEdgesTest {
 
   /** "if hours is not 1 to 96", "if what is not 0 to 4" */
   private static void foreseeRange() {
-    BarkMakers x = passed(FIGURES, 5);
+    BarkMakers x = Check.passed(FIGURES, 9);
+    Check.same("coins that are there already", x.count(10), 18);
     for (int what = 0; what <= 4; what++) {
       int told = what;
       refusedArgument("foresee what " + what, x, 1, 96, hours -> x.foresee(hours, told));
@@ -544,7 +563,7 @@ public final class CallEdgesTest {
       int told = hours;
       refusedIndex("foresee " + hours + " hours", x, 0, 4, what -> x.foresee(told, what));
       long before = x.digest();
-      BarkMakers y = passed(FIGURES, 5);
+      BarkMakers y = Check.passed(FIGURES, 9);
       int made = y.count(11);
       Check.same("coins in " + hours, x.foresee(hours, 0), y.pass(hours));
       Check.same("sheets behind " + hours, x.foresee(hours, 1), y.count(7));
@@ -570,7 +589,7 @@ public final class CallEdgesTest {
 
   /** "Throws IndexOutOfBoundsException if there is no such beater" */
   private static void adviseRange() {
-    BarkMakers x = passed(FIGURES, 5);
+    BarkMakers x = Check.passed(FIGURES, 5);
     refusedIndex("advise", x, 0, 1, beater -> x.advise(beater));
     long before = x.digest();
     Check.same("the same as the other one", x.advise(0), 1);
@@ -582,7 +601,7 @@ public final class CallEdgesTest {
     Check.same("all the same", Check.taught("beater b hand 9 every 1;").advise(0), 6);
     // Two beat a sheet in the hour 60 if they are alike, and otherwise none.
     for (int every = 1; every <= 6; every++) {
-      BarkMakers x = passed("bark a raw 500 fibre 1;beater b hand 5 every " + every + ";beater c hand 4 every 1;soak a by 60;"
+      BarkMakers x = Check.passed("bark a raw 500 fibre 1;beater b hand 5 every " + every + ";beater c hand 4 every 1;soak a by 60;"
           + "beat b on a when hour = 60;beat c on a when hour = 60;", 13);
       Check.same("only as the other one, every " + every, x.advise(1), every);
     }
@@ -597,7 +616,7 @@ public final class CallEdgesTest {
   /** "so that the most sheets are made in 48 hours" */
   private static void advise48Hours() {
     for (int hour = 49; hour <= 56; hour++) {
-      BarkMakers x = passed("bark a raw 10 fibre 1;beater b hand 9 every 1;soak a by 60;beat b on a when hour = 5 or hour = " + hour + ";", 5);
+      BarkMakers x = Check.passed("bark a raw 10 fibre 1;beater b hand 9 every 1;soak a by 60;beat b on a when hour = 5 or hour = " + hour + ";", 5);
       int due = hour == 50 ? 5 : 1;
       Check.same("the 48 hours are 5 to 52, asked for " + hour, x.advise(0), hour <= 52 ? due : 6);
     }
@@ -605,7 +624,7 @@ public final class CallEdgesTest {
 
   /** "if hours is not 1 to 72" */
   private static void bestRange() {
-    BarkMakers x = passed(FIGURES, 5);
+    BarkMakers x = Check.passed(FIGURES, 5);
     refusedArgument("best", x, 1, 72, hours -> x.best(hours));
     long before = x.digest();
     Check.same("best of 1", x.best(1), 0);
@@ -618,11 +637,11 @@ public final class CallEdgesTest {
     Check.same("all the same", new BarkMakers().best(72), 0);
     for (int weather = 0; weather <= 3; weather++) {
       String list = SHEETS + "spirit s folds 0 cuts 9 price 5;cut s from a when hour > 7 and weather ";
-      Check.same("only " + weather, passed(list + "= " + weather + ";", 8).best(8), weather);
-      Check.same("least " + weather, passed(list + ">= " + weather + ";", 8).best(8), weather);
+      Check.same("only " + weather, Check.passed(list + "= " + weather + ";", 8).best(8), weather);
+      Check.same("least " + weather, Check.passed(list + ">= " + weather + ";", 8).best(8), weather);
     }
     for (int weather = 4; weather <= 5; weather++) {
-      BarkMakers x = passed(FIGURES, 7);
+      BarkMakers x = Check.passed(FIGURES, 7);
       x.setWeather(weather);
       Check.same("not the one that is", x.best(72), 0);
       Check.same("which stays", x.count(1), weather);
@@ -635,19 +654,22 @@ public final class CallEdgesTest {
     for (int hours = 1; hours <= 10; hours++) {
       Check.same("best within " + hours, x.best(hours), hours < 8 ? 0 : 1);
     }
-    BarkMakers y = passed(SHEETS + "spirit s folds 0 cuts 9 price 5;cut s from a when weather = 1;", 1);
+    BarkMakers y = Check.passed(SHEETS + "spirit s folds 0 cuts 9 price 5;cut s from a when weather = 1;", 1);
     Check.same("the hour 7 from the hour 1", y.best(6), 0);
     Check.same("the hour 7 from the hour 1, in it", y.best(7), 1);
   }
 
   /** "if hours is not 1 to 72" */
   private static void spareRange() {
-    BarkMakers x = passed(FIGURES, 5);
+    BarkMakers x = Check.passed(FIGURES, 5);
     refusedArgument("spare", x, 1, 72, hours -> x.spare(hours));
     long before = x.digest();
     Check.same("spare of 1", x.spare(1), -1);
     Check.same("spare of 72", x.spare(72), -1);
     Check.same("nothing is changed", x.digest(), before);
+    Check.same("nobody is away in what is foreseen behind it", x.foresee(10, 3), 10);
+    x.pass(10);
+    Check.same("nor in what is", x.count(11), 15);
   }
 
   /** "-1 if there is none, or without each one fewer are made than with all" */
@@ -685,14 +707,14 @@ public final class CallEdgesTest {
   /** "Returns the mean beauty of all figures; 0 without any." */
   private static void mean0() {
     Check.same("new", new BarkMakers().mean(), 0.0);
-    BarkMakers x = passed(FIGURES, 3);
+    BarkMakers x = Check.passed(FIGURES, 3);
     Check.same("without any", x.mean(), 0.0);
     x.pass(1);
     Check.same("of one", x.mean(), 7.0);
     x.setTourists(20);
     x.pass(4);
     Check.same("all are sold", x.mean(), 0.0);
-    Check.same("none is beautiful", passed(SHEETS + "spirit s folds 0 cuts 1 price 5;cut s from a;", 6).mean(), 0.0);
+    Check.same("none is beautiful", Check.passed(SHEETS + "spirit s folds 0 cuts 1 price 5;cut s from a;", 6).mean(), 0.0);
   }
 
   /** The mean is no whole number; of 30 figures it is one of 30. */
@@ -712,7 +734,7 @@ public final class CallEdgesTest {
   private static void digestWrapsAround() {
     BarkMakers x = new BarkMakers();
     Check.same("digest of a new object", x.digest(), reckoned(x));
-    BarkMakers y = passed(FIGURES, 7);
+    BarkMakers y = Check.passed(FIGURES, 7);
     Check.same("digest with all sorts", y.digest(), reckoned(y));
     y.setWeather(4);
     y.setTourists(0);
@@ -764,7 +786,7 @@ public final class CallEdgesTest {
 
   /** "If several exceptions apply, the one that is named first is thrown." */
   private static void firstExceptionIsThrown() {
-    BarkMakers x = passed(FIGURES, 5);
+    BarkMakers x = Check.passed(FIGURES, 5);
     for (int wrong : new int[] {LEAST, -1, 2, MOST}) {
       Check.refusesIndex("tune beater " + wrong + " to 0", x, () -> x.tune(wrong, 0));
       Check.refusesIndex("tune beater " + wrong + " to 7", x, () -> x.tune(wrong, 7));

@@ -1,5 +1,8 @@
 /** What the tests share: told lists, looked at answers, and counted failures. */
 final class Check {
+  /** Two beaters with a force of 10 on fibre 1: a sheet an hour, 2 thick, dry in the third hour behind. */
+  static final String PAIR = "beater b hand 4 every 1;beater c hand 4 every 1;soak a by 60;beat b on a;beat c on a;";
+
   private static int wrong = 0;
 
   private Check() {
@@ -73,7 +76,13 @@ final class Check {
     return makers;
   }
 
-  /** The list has this error at this place, which is told in brackets to be easily counted. */
+  static BarkMakers passed(String list, int hours) {
+    BarkMakers makers = taught(list);
+    makers.pass(hours);
+    return makers;
+  }
+
+  /** The list has this error at this place, counted from 0; 0 and -1 if it has none. */
   static void error(String list, int error, int place) {
     BarkMakers makers = new BarkMakers();
     write(makers, list);

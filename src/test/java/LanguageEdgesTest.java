@@ -7,6 +7,27 @@ public final class LanguageEdgesTest {
   private static final String MAKERS = BARK + "beater b hand 1 every 1;spirit s folds 0 cuts 1 price 1;";
   private static final String GREATEST = "(65536*32767+65535)";
   private static final String SMALLEST = "(0-65536*32767-65536)";
+  private static final String LINE = "bark beater spirit soak beat cut END";
+  private static final String VALUE = "NUMBER hour coins weather raw soaked board sheets figures - ( min max";
+  private static final String SINGLE = VALUE + " not [";
+  private static final String SIGN = "+ - * / ";
+  private static final String COMPARE = SIGN + "< > = <= >=";
+  /** The tokens of a list, each with all that fit in its place. */
+  private static final String[][] STEPS = {
+    {"bark", LINE}, {"a", "NAME"}, {"raw", "raw"}, {"9", "NUMBER"}, {"fibre", "fibre"}, {"1", "NUMBER"}, {";", ";"},
+    {"beater", LINE}, {"b", "NAME"}, {"hand", "hand"}, {"1", "NUMBER"}, {"every", "every"}, {"1", "NUMBER"}, {";", ";"},
+    {"spirit", LINE}, {"s", "NAME"}, {"folds", "folds"}, {"0", "NUMBER"}, {"cuts", "cuts"}, {"1", "NUMBER"}, {"price", "price"}, {"1", "NUMBER"}, {";", ";"},
+    {"soak", LINE}, {"a", "NAME"}, {"by", "by"}, {"min", VALUE}, {"(", "("}, {"raw", VALUE}, {"a", "NAME"}, {",", SIGN + ","},
+    {"(", VALUE}, {"soaked", VALUE}, {"a", "NAME"}, {"+", SIGN + ")"}, {"1", VALUE}, {")", SIGN + ")"}, {"*", SIGN + ")"}, {"-", VALUE}, {"hour", VALUE}, {")", SIGN + ")"},
+    {"/", SIGN + "; when"}, {"max", VALUE}, {"(", "("}, {"1", VALUE}, {"-", SIGN + ","}, {"board", VALUE}, {"a", "NAME"}, {",", SIGN + ","}, {"coins", VALUE}, {")", SIGN + ")"},
+    {"when", SIGN + "; when"}, {"[", SINGLE}, {"not", SINGLE}, {"weather", SINGLE}, {"<", COMPARE}, {"sheets", VALUE}, {"a", "NAME"},
+    {"and", SIGN + "and or ]"}, {"1", SINGLE}, {"=", COMPARE}, {"figures", VALUE}, {"s", "NAME"}, {"or", SIGN + "and or ]"},
+    {"(", SINGLE}, {"1", VALUE}, {")", SIGN + ")"}, {">=", COMPARE}, {"2", VALUE}, {"]", SIGN + "and or ]"}, {"and", "and or ;"},
+    {"1", SINGLE}, {"<=", COMPARE}, {"2", VALUE}, {";", SIGN + "and or ;"},
+    {"beat", LINE}, {"b", "NAME"}, {"on", "on"}, {"a", "NAME"}, {"when", "when ;"}, {"not", SINGLE}, {"1", SINGLE}, {">", COMPARE}, {"0", VALUE}, {";", SIGN + "and or ;"},
+    {"cut", LINE}, {"s", "NAME"}, {"from", "from"}, {"a", "NAME"}, {";", "when ;"},
+    {"soak", LINE}, {"a", "NAME"}, {"by", "by"}, {"1", VALUE}, {";", SIGN + "; when"}, {"", LINE},
+  };
   private static final String[] KEYWORDS = ("bark raw fibre beater hand every spirit folds cuts price soak by beat on cut from when hour "
       + "soaked board sheets figures coins weather not and or min max").split(" ");
 
@@ -20,6 +41,8 @@ public final class LanguageEdgesTest {
     smallestByMinus1();
     positionsFrom0();
     hoursFrom0();
+    comparisons();
+    minAndMax();
     atMost2000Bytes();
     emptyAtFirst();
     emptyBehindTeach();
@@ -40,6 +63,7 @@ public final class LanguageEdgesTest {
     depthOfTests();
     depthOfBoth();
     depthEnds();
+    deepestOfLastOrder();
     wrongTokens();
     byteWithoutToken();
     endOfTheTape();
@@ -161,6 +185,43 @@ public final class LanguageEdgesTest {
     Check.same("the first hour is not 1", x.bark(0, 1), 0);
     x.pass(1);
     Check.same("the second hour is 1", x.bark(0, 1), 1);
+  }
+
+  /** "sum ( "<" | ">" | "=" | "<=" | ">=" ) sum": less, the same and more; on the edges of 32 bits, and as a part of a test. */
+  private static void comparisons() {
+    String[] signs = {"<", ">", "=", "<=", ">="};
+    String[][] pairs = {{"1", "2"}, {SMALLEST, GREATEST}, {SMALLEST, SMALLEST + " + 1"}, {"-1", "0"}, {"-2", "-1"}};
+    // what holds for each sign of a lesser left side, of the same, and of a greater one
+    boolean[][] due = {{true, false, false, true, false}, {false, false, true, true, true}, {false, true, false, false, true}};
+    for (int sign = 0; sign < signs.length; sign++) {
+      for (String[] pair : pairs) {
+        String[] tests = {pair[0] + signs[sign] + pair[1], pair[1] + signs[sign] + pair[1], pair[1] + signs[sign] + pair[0]};
+        for (int n = 0; n < tests.length; n++) {
+          boolean holds = due[n][sign];
+          truth(tests[n], holds ? 1 : 0);
+          truth("not " + tests[n], holds ? 0 : 1);
+          truth(tests[n] + " and 1 = 1", holds ? 1 : 0);
+          truth("1 = 1 and " + tests[n], holds ? 1 : 0);
+          truth(tests[n] + " or 1 = 2", holds ? 1 : 0);
+          truth("not [1 = 2 or " + tests[n] + "]", holds ? 0 : 1);
+        }
+      }
+    }
+  }
+
+  /** "( "min" | "max" ) "(" sum "," sum ")"" */
+  private static void minAndMax() {
+    holds("min(1, 2) = 1");
+    holds("min(2, 1) = 1");
+    holds("min(2, 2) = 2");
+    holds("max(1, 2) = 2");
+    holds("max(2, 1) = 2");
+    holds("max(2, 2) = 2");
+    holds("min(-1, 0) = -1");
+    holds("max(-1, 0) = 0");
+    holds("min(" + SMALLEST + ", " + GREATEST + ") = " + SMALLEST);
+    holds("max(" + SMALLEST + ", " + GREATEST + ") = " + GREATEST);
+    holds("max(min(3, 4), min(5, 2)) * 2 = 6");
   }
 
   // ---- the tape
@@ -433,23 +494,39 @@ public final class LanguageEdgesTest {
     Check.fine(BARK + "soak a by " + parens + ";soak a by " + parens + ";");
   }
 
+  /** The 24th order, as deep as it may be, with a side that waits for its other one at each depth. */
+  private static void deepestOfLastOrder() {
+    String sum = "1+1*max(2,".repeat(8) + "7" + ")".repeat(8);
+    String test = "1=2 or 1=1 and [".repeat(3) + "1=2 or 1=1 and 15>1+1*max(2," + "1+1*max(2,".repeat(4) + "9" + ")".repeat(5) + "]".repeat(3);
+    BarkMakers x = Check.taught(BARK + "bark c raw 60 fibre 1;" + "soak a by 0 when 1=1;".repeat(23) + "soak c by " + sum + " when " + test + ";");
+    x.pass(1);
+    Check.same("soaked", x.bark(1, 1), 15);
+    BarkMakers y = Check.taught(BARK + "bark c raw 60 fibre 1;" + "soak a by 0 when 1=1;".repeat(23) + "soak c by " + sum + " when " + test.replace("15>", "14>") + ";");
+    y.pass(1);
+    Check.same("not soaked", y.bark(1, 1), 0);
+  }
+
   // ---- errors
 
-  /** "the first token with which the tokens so far are not the beginning of a list" */
+  /** "the first token with which the tokens so far are not the beginning of a list": each token at each place. */
   private static void wrongTokens() {
-    String[] tokens = ("bark a raw 9 fibre 1 ; beater b hand 1 every 1 ; spirit s folds 0 cuts 1 price 1 ; "
-        + "soak a by 1 + min ( raw a , 2 ) when not [ hour < 1 or coins = 2 and weather >= 3 ] ; "
-        + "beat b on a when - 1 <= sheets a * 2 / 3 ; cut s from a when ( figures s ) > board a - soaked a ;").split(" ");
-    String[] wrong = {"hand", "fibre", "bark", "?", "abcdefghijk", "1234567"};
+    List<String> all = new ArrayList<>(List.of(KEYWORDS));
+    all.addAll(List.of("NAME NUMBER END ( ) [ ] ; , + - * / < > = <= >=".split(" ")));
     StringBuilder head = new StringBuilder();
-    for (String token : tokens) {
-      for (String instead : wrong) {
-        boolean lineBegins = head.length() == 0 || head.charAt(head.length() - 2) == ';';
-        if (!token.equals(instead) && !(lineBegins && instead.equals("bark"))) {
-          Check.errorHere(head + "^" + instead + " " + token, 1);
+    for (String[] step : STEPS) {
+      List<String> fitting = List.of(step[1].split(" "));
+      for (String token : all) {
+        String text = token.equals("NAME") ? "q " : token.equals("NUMBER") ? "1 " : token.equals("END") ? "" : token + " ";
+        if (!fitting.contains(token)) {
+          Check.errorHere(head + "^" + text, 1);
+        } else {
+          BarkMakers x = new BarkMakers();
+          Check.write(x, head + text);
+          x.teach();
+          Check.same("no error is told at the last token of " + head + text, x.errorAt() == head.length() ? 1 : 0, 0);
         }
       }
-      head.append(token).append(' ');
+      head.append(step[0]).append(' ');
     }
     Check.fine(head.toString());
   }

@@ -1,10 +1,8 @@
 /** Each sentence of '2. The mountain' that names a boundary case, by a test of its own. */
 public final class MountainEdgesTest {
-  /** Two beaters with a force of 10 on fibre 1: a sheet an hour, 2 thick, dry in the third hour behind. */
-  private static final String PAIR = "beater b hand 4 every 1;beater c hand 4 every 1;soak a by 60;beat b on a;beat c on a;";
   /** A sheet in the hour 0, and no other one. */
-  private static final String ONE_SHEET = "bark a raw 10 fibre 1;" + PAIR;
-  private static final String SHEETS = "bark a raw 500 fibre 1;" + PAIR;
+  private static final String ONE_SHEET = "bark a raw 10 fibre 1;" + Check.PAIR;
+  private static final String SHEETS = "bark a raw 500 fibre 1;" + Check.PAIR;
 
   public static void main(String[] args) {
     atFirst();
@@ -57,12 +55,6 @@ public final class MountainEdgesTest {
     Check.finish();
   }
 
-  private static BarkMakers passed(String list, int hours) {
-    BarkMakers x = Check.taught(list);
-    x.pass(hours);
-    return x;
-  }
-
   private static void sheet(String what, BarkMakers x, int sheet, int wet, int mouldy) {
     Check.same(what + ", wet", x.sheet(sheet, 2), wet);
     Check.same(what + ", mouldy", x.sheet(sheet, 3), mouldy);
@@ -87,7 +79,7 @@ public final class MountainEdgesTest {
   private static void soaked0To60() {
     int[] sums = {0, 1, 59, 60, 61, 999999};
     for (int sum : sums) {
-      BarkMakers x = passed("bark a raw 500 fibre 1;soak a by " + sum + ";", 1);
+      BarkMakers x = Check.passed("bark a raw 500 fibre 1;soak a by " + sum + ";", 1);
       Check.same("soaked by " + sum, x.bark(0, 1), Math.min(60, sum));
       Check.same("raw less " + sum, x.bark(0, 0), 500 - Math.min(60, sum));
     }
@@ -95,7 +87,7 @@ public final class MountainEdgesTest {
 
   /** "There are sheets, at most 30", "as long as there are fewer than 30 sheets" */
   private static void atMost30Sheets() {
-    BarkMakers x = passed("bark a raw 290 fibre 1;" + PAIR, 29);
+    BarkMakers x = Check.passed("bark a raw 290 fibre 1;" + Check.PAIR, 29);
     Check.same("29 sheets", x.count(7), 29);
     x.bring(0, 10);
     x.pass(1);
@@ -117,7 +109,7 @@ public final class MountainEdgesTest {
 
   /** "There are figures, at most 30", "and there are fewer than 30 figures" */
   private static void atMost30Figures() {
-    BarkMakers x = Check.taught("bark a raw 290 fibre 1;" + PAIR + "spirit s folds 0 cuts 9 price 1;cut s from a;");
+    BarkMakers x = Check.taught("bark a raw 290 fibre 1;" + Check.PAIR + "spirit s folds 0 cuts 9 price 1;cut s from a;");
     x.setTourists(0);
     x.pass(32);
     Check.same("29 figures", x.count(9), 29);
@@ -141,7 +133,7 @@ public final class MountainEdgesTest {
 
   /** "numbered from 0 by their age, the oldest one first", "Where one goes, those behind it have numbers that are 1 less." */
   private static void sheetsAreNumberedByAge() {
-    BarkMakers x = Check.taught("bark a raw 60 fibre 1;" + PAIR);
+    BarkMakers x = Check.taught("bark a raw 60 fibre 1;" + Check.PAIR);
     x.setWeather(3);
     x.pass(6);
     moulds(x, 6, 5, 4, 3, 2, 1);
@@ -217,40 +209,40 @@ public final class MountainEdgesTest {
 
   /** "if the test holds now (or there is none)", "in the order in which they are told" */
   private static void soakTestHoldsNow() {
-    Check.same("without a test", passed("bark a raw 9 fibre 1;soak a by 1;", 1).bark(0, 1), 1);
-    Check.same("a test that holds", passed("bark a raw 9 fibre 1;soak a by 1 when soaked a = 0;", 1).bark(0, 1), 1);
-    Check.same("a test that does not", passed("bark a raw 9 fibre 1;soak a by 1 when soaked a = 1;", 1).bark(0, 1), 0);
-    Check.same("no more behind the first order", passed("bark a raw 9 fibre 1;soak a by 1;soak a by 3 when soaked a = 0;", 1).bark(0, 1), 1);
-    Check.same("only behind the first order", passed("bark a raw 9 fibre 1;soak a by 1;soak a by 3 when soaked a = 1;", 1).bark(0, 1), 4);
-    Check.same("not yet behind the second order", passed("bark a raw 9 fibre 1;soak a by 3 when soaked a = 1;soak a by 1;", 1).bark(0, 1), 1);
-    Check.same("the sum as well", passed("bark a raw 9 fibre 1;soak a by 2;soak a by soaked a * 2;", 1).bark(0, 1), 6);
+    Check.same("without a test", Check.passed("bark a raw 9 fibre 1;soak a by 1;", 1).bark(0, 1), 1);
+    Check.same("a test that holds", Check.passed("bark a raw 9 fibre 1;soak a by 1 when soaked a = 0;", 1).bark(0, 1), 1);
+    Check.same("a test that does not", Check.passed("bark a raw 9 fibre 1;soak a by 1 when soaked a = 1;", 1).bark(0, 1), 0);
+    Check.same("no more behind the first order", Check.passed("bark a raw 9 fibre 1;soak a by 1;soak a by 3 when soaked a = 0;", 1).bark(0, 1), 1);
+    Check.same("only behind the first order", Check.passed("bark a raw 9 fibre 1;soak a by 1;soak a by 3 when soaked a = 1;", 1).bark(0, 1), 4);
+    Check.same("not yet behind the second order", Check.passed("bark a raw 9 fibre 1;soak a by 3 when soaked a = 1;soak a by 1;", 1).bark(0, 1), 1);
+    Check.same("the sum as well", Check.passed("bark a raw 9 fibre 1;soak a by 2;soak a by soaked a * 2;", 1).bark(0, 1), 6);
   }
 
   /** "as much raw bark as its sum tells (none, if it is less than 0)" */
   private static void soakNoneIfLessThan0() {
     String[] none = {"0", "-1", "-999999", "0-65536*32768", "65536*32767+65536"};
     for (String sum : none) {
-      BarkMakers x = passed("bark a raw 9 fibre 1;soak a by 4;soak a by " + sum + ";", 1);
+      BarkMakers x = Check.passed("bark a raw 9 fibre 1;soak a by 4;soak a by " + sum + ";", 1);
       Check.same("soaked by 4 and " + sum, x.bark(0, 1), 4);
       Check.same("raw less 4 and " + sum, x.bark(0, 0), 5);
     }
-    Check.same("soaked by 4 and 1", passed("bark a raw 9 fibre 1;soak a by 4;soak a by 1;", 1).bark(0, 1), 5);
+    Check.same("soaked by 4 and 1", Check.passed("bark a raw 9 fibre 1;soak a by 4;soak a by 1;", 1).bark(0, 1), 5);
   }
 
   /** "is soaked, as far as there is some" */
   private static void soakAsFarAsThereIsSome() {
     for (int raw = 0; raw <= 7; raw++) {
-      BarkMakers x = passed("bark a raw " + raw + " fibre 1;soak a by 5;", 1);
+      BarkMakers x = Check.passed("bark a raw " + raw + " fibre 1;soak a by 5;", 1);
       Check.same("soaked of " + raw, x.bark(0, 1), Math.min(5, raw));
       Check.same("left of " + raw, x.bark(0, 0), raw - Math.min(5, raw));
     }
-    Check.same("by the greatest number", passed("bark a raw 9 fibre 1;soak a by 65536*32767+65535;", 1).bark(0, 1), 9);
+    Check.same("by the greatest number", Check.passed("bark a raw 9 fibre 1;soak a by 65536*32767+65535;", 1).bark(0, 1), 9);
   }
 
   /** "and room" */
   private static void soakAsFarAsThereIsRoom() {
     for (int second = 19; second <= 21; second++) {
-      BarkMakers x = passed("bark a raw 500 fibre 1;soak a by 40;soak a by " + second + ";", 1);
+      BarkMakers x = Check.passed("bark a raw 500 fibre 1;soak a by 40;soak a by " + second + ";", 1);
       int due = Math.min(60, 40 + second);
       Check.same("soaked by 40 and " + second, x.bark(0, 1), due);
       Check.same("raw less 40 and " + second, x.bark(0, 0), 500 - due);
@@ -306,19 +298,19 @@ public final class MountainEdgesTest {
   /** "whose test holds behind step 1" */
   private static void behindSoaking() {
     String head = "bark a raw 9 fibre 1;beater b hand 5 every 1;soak a by 3;";
-    Check.same("what is soaked is seen", passed(head + "beat b on a when soaked a = 3;", 1).bark(0, 2), 3);
-    Check.same("no more what was there ahead", passed(head + "beat b on a when soaked a = 0;", 1).bark(0, 2), 0);
-    Check.same("nor of raw bark", passed(head + "beat b on a when raw a = 6;", 1).bark(0, 2), 3);
+    Check.same("what is soaked is seen", Check.passed(head + "beat b on a when soaked a = 3;", 1).bark(0, 2), 3);
+    Check.same("no more what was there ahead", Check.passed(head + "beat b on a when soaked a = 0;", 1).bark(0, 2), 0);
+    Check.same("nor of raw bark", Check.passed(head + "beat b on a when raw a = 6;", 1).bark(0, 2), 3);
   }
 
   /** "before anybody beats" */
   private static void beforeAnybodyBeats() {
     String head = "bark a raw 60 fibre 1;bark c raw 60 fibre 1;beater b hand 5 every 1;beater n hand 5 every 1;soak a by 60;soak c by 60;beat b on a;";
-    Check.same("no pulp is seen yet", passed(head + "beat n on c when board a = 0;", 1).bark(1, 2), 5);
-    Check.same("nor soaked bark less", passed(head + "beat n on c when soaked a = 60;", 1).bark(1, 2), 5);
-    Check.same("not when it asks for pulp", passed(head + "beat n on c when board a = 5;", 1).bark(1, 2), 0);
-    Check.same("but in the next hour", passed(head + "beat n on c when board a = 5;", 2).bark(1, 2), 5);
-    BarkMakers x = passed("bark a raw 60 fibre 1;bark c raw 60 fibre 1;" + PAIR + "soak c by 60;beater n hand 5 every 1;beat n on c when sheets a = 0;", 1);
+    Check.same("no pulp is seen yet", Check.passed(head + "beat n on c when board a = 0;", 1).bark(1, 2), 5);
+    Check.same("nor soaked bark less", Check.passed(head + "beat n on c when soaked a = 60;", 1).bark(1, 2), 5);
+    Check.same("not when it asks for pulp", Check.passed(head + "beat n on c when board a = 5;", 1).bark(1, 2), 0);
+    Check.same("but in the next hour", Check.passed(head + "beat n on c when board a = 5;", 2).bark(1, 2), 5);
+    BarkMakers x = Check.passed("bark a raw 60 fibre 1;bark c raw 60 fibre 1;" + Check.PAIR + "soak c by 60;beater n hand 5 every 1;beat n on c when sheets a = 0;", 1);
     Check.same("nor a sheet", x.bark(1, 2), 5);
   }
 
@@ -361,7 +353,7 @@ public final class MountainEdgesTest {
 
   /** "all who do so there": whoever does not beat in this hour, or beats elsewhere, is none of them. */
   private static void forceOfThoseWhoBeatNow() {
-    BarkMakers x = passed("bark a raw 9 fibre 1;bark c raw 9 fibre 1;beater b hand 5 every 2;beater d hand 4 every 2;beater e hand 9 every 3;"
+    BarkMakers x = Check.passed("bark a raw 9 fibre 1;bark c raw 9 fibre 1;beater b hand 5 every 2;beater d hand 4 every 2;beater e hand 9 every 3;"
         + "beater f hand 9 every 1;beat b on a;beat d on a;beat e on a;beat f on c;", 2);
     Check.same("those of every 2 in hour 2", x.force(0), 11);
     Check.same("the one elsewhere", x.force(1), 9);
@@ -377,19 +369,19 @@ public final class MountainEdgesTest {
   private static void forceByFibreIsCut() {
     int[][] handFibreAndPulp = {{8, 9, 0}, {9, 9, 1}, {1, 2, 0}, {5, 3, 1}, {6, 3, 2}, {7, 3, 2}, {9, 1, 9}};
     for (int[] due : handFibreAndPulp) {
-      BarkMakers x = passed("bark a raw 500 fibre " + due[1] + ";beater b hand " + due[0] + " every 1;soak a by 60;beat b on a;", 1);
+      BarkMakers x = Check.passed("bark a raw 500 fibre " + due[1] + ";beater b hand " + due[0] + " every 1;soak a by 60;beat b on a;", 1);
       Check.same("hand " + due[0] + " on fibre " + due[1], x.bark(0, 2), due[2]);
       Check.same("soaked less, hand " + due[0] + " on fibre " + due[1], x.bark(0, 1), 60 - due[2]);
     }
     String two = "bark a raw 500 fibre 9;beater b hand 9 every 1;beater c hand % every 1;soak a by 60;beat b on a;beat c on a;";
-    Check.same("17 / 9", passed(two.replace("%", "6"), 1).bark(0, 2), 1);
-    Check.same("18 / 9", passed(two.replace("%", "7"), 1).bark(0, 2), 2);
+    Check.same("17 / 9", Check.passed(two.replace("%", "6"), 1).bark(0, 2), 1);
+    Check.same("18 / 9", Check.passed(two.replace("%", "7"), 1).bark(0, 2), 2);
   }
 
   /** "as far as there is some, becomes pulp" */
   private static void pulpAsFarAsThereIsSome() {
     for (int soaked = 0; soaked <= 7; soaked++) {
-      BarkMakers x = passed("bark a raw 60 fibre 1;beater b hand 5 every 1;soak a by " + soaked + " when hour = 0;beat b on a;", 1);
+      BarkMakers x = Check.passed("bark a raw 60 fibre 1;beater b hand 5 every 1;soak a by " + soaked + " when hour = 0;beat b on a;", 1);
       Check.same("pulp of " + soaked, x.bark(0, 2), Math.min(5, soaked));
       Check.same("soaked left of " + soaked, x.bark(0, 1), soaked - Math.min(5, soaked));
       x.pass(1);
@@ -402,12 +394,12 @@ public final class MountainEdgesTest {
   private static void eachWhole10() {
     int[] pulps = {0, 9, 10, 11, 19, 20};
     for (int pulp : pulps) {
-      BarkMakers x = passed("bark a raw 500 fibre 1;beater b hand 9 every 1;beater c hand 9 every 1;soak a by " + pulp + ";beat b on a;beat c on a;", 1);
+      BarkMakers x = Check.passed("bark a raw 500 fibre 1;beater b hand 9 every 1;beater c hand 9 every 1;soak a by " + pulp + ";beat b on a;beat c on a;", 1);
       Check.same("sheets of " + pulp, x.count(7), pulp / 10);
       Check.same("made of " + pulp, x.count(11), pulp / 10);
       Check.same("pulp left of " + pulp, x.bark(0, 2), pulp % 10);
     }
-    BarkMakers x = passed("bark a raw 500 fibre 1;beater b hand 9 every 1;soak a by 60;beat b on a;", 1);
+    BarkMakers x = Check.passed("bark a raw 500 fibre 1;beater b hand 9 every 1;soak a by 60;beat b on a;", 1);
     Check.same("9 of the first hour", x.bark(0, 2) + 100 * x.count(7), 9);
     x.pass(1);
     Check.same("18 with those of the second", x.bark(0, 2) + 100 * x.count(7), 108);
@@ -419,7 +411,7 @@ public final class MountainEdgesTest {
       StringBuilder list = new StringBuilder("bark a raw 500 fibre " + fibre + ";soak a by 60;");
       for (int beaters = 1; beaters <= 6; beaters++) {
         list.append("beater b").append(beaters).append(" hand 9 every 1;beat b").append(beaters).append(" on a;");
-        BarkMakers x = passed(list.toString(), 12);
+        BarkMakers x = Check.passed(list.toString(), 12);
         Check.same("thick of fibre " + fibre + " by " + beaters, x.sheet(0, 1), Math.max(1, fibre + 3 - beaters));
       }
     }
@@ -435,7 +427,7 @@ public final class MountainEdgesTest {
 
   /** "What pulp is left stays on the board, till somebody beats there again." */
   private static void leftPulpStays() {
-    BarkMakers x = passed("bark a raw 315 fibre 1;beater b hand 4 every 1;beater c hand 4 every 1;soak a by 60;"
+    BarkMakers x = Check.passed("bark a raw 315 fibre 1;beater b hand 4 every 1;beater c hand 4 every 1;soak a by 60;"
         + "beat b on a when hour < 32 or hour > 40;beat c on a when hour < 32;", 32);
     Check.same("pulp left", x.bark(0, 2), 15);
     Check.same("nothing soaked", x.bark(0, 0) + x.bark(0, 1), 0);
@@ -472,7 +464,7 @@ public final class MountainEdgesTest {
   private static void staysAsWet() {
     int[] wet = {3, 2, 1, 0};
     for (int hours = 1; hours <= 4; hours++) {
-      BarkMakers x = passed(ONE_SHEET, hours);
+      BarkMakers x = Check.passed(ONE_SHEET, hours);
       x.setWeather(3);
       x.pass(1);
       sheet("dried " + hours + " hours, then 3", x, 0, wet[hours - 1], hours == 1 ? 2 : 1);
@@ -497,7 +489,7 @@ public final class MountainEdgesTest {
 
   /** "then, if it is wet by 3 or more ... it is mouldier by 1" */
   private static void mouldierFrom3() {
-    BarkMakers x = passed(ONE_SHEET, 1);
+    BarkMakers x = Check.passed(ONE_SHEET, 1);
     sheet("wet by 3 now", x, 0, 3, 1);
     x.pass(1);
     sheet("wet by 2 now, though 3 before", x, 0, 2, 1);
@@ -517,7 +509,7 @@ public final class MountainEdgesTest {
   /** "or the weather is 5, it is mouldier by 1" */
   private static void mouldierWithWeather5() {
     for (int weather = 4; weather <= 5; weather++) {
-      BarkMakers x = passed(ONE_SHEET, 4);
+      BarkMakers x = Check.passed(ONE_SHEET, 4);
       sheet("dry", x, 0, 0, 1);
       x.setWeather(weather);
       x.pass(1);
@@ -545,7 +537,7 @@ public final class MountainEdgesTest {
   private static void thoseOfThisHour() {
     int[] wet = {3, 3, 3, 4, 5, 5};
     for (int weather = 0; weather <= 5; weather++) {
-      BarkMakers x = Check.taught("bark a raw 20 fibre 1;" + PAIR);
+      BarkMakers x = Check.taught("bark a raw 20 fibre 1;" + Check.PAIR);
       x.setWeather(weather);
       x.pass(1);
       sheet("in its hour, weather " + weather, x, 0, wet[weather], 1);
@@ -558,10 +550,12 @@ public final class MountainEdgesTest {
 
   /** "if the test holds now (or there is none)", "in the order in which they are told" */
   private static void cutTestHoldsNow() {
-    String head = "bark a raw 20 fibre 1;beater b hand 9 every 1;beater c hand 9 every 1;soak a by 60;beat b on a;beat c on a;"
-        + "spirit s folds 0 cuts 9 price 1;spirit t folds 0 cuts 9 price 1;";
+    String told = "bark a raw 20 fibre 1;beater b hand 9 every 1;beater c hand 9 every 1;spirit s folds 0 cuts 9 price 1;spirit t folds 0 cuts 9 price 1;";
+    String makers = "soak a by 60;beat b on a;beat c on a;";
+    String head = told + makers;
     cutBehind4Hours(head + "cut s from a;cut t from a;", 1, 1);
     cutBehind4Hours(head + "cut s from a when 1 = 2;cut t from a;", 0, 1);
+    cutBehind4Hours(told + "cut t from a;" + makers, 0, 1);
     cutBehind4Hours(head + "cut s from a;cut t from a when figures s = 1;", 1, 1);
     cutBehind4Hours(head + "cut s from a;cut t from a when figures s = 0;", 1, 0);
     cutBehind4Hours(head + "cut t from a when figures s = 1;cut s from a;", 1, 0);
@@ -570,7 +564,7 @@ public final class MountainEdgesTest {
   }
 
   private static void cutBehind4Hours(String list, int first, int second) {
-    BarkMakers x = passed(list, 4);
+    BarkMakers x = Check.passed(list, 4);
     Check.same("figures of s, " + list, x.spirit(0, 3), first);
     Check.same("figures of t, " + list, x.spirit(1, 3), second);
     Check.same("sheets, " + list, x.count(7), 2 - first - second);
@@ -578,7 +572,7 @@ public final class MountainEdgesTest {
 
   /** "the oldest sheet of the bark that is not wet" */
   private static void cutNotWet() {
-    BarkMakers x = passed(ONE_SHEET + "spirit s folds 0 cuts 9 price 1;cut s from a;", 3);
+    BarkMakers x = Check.passed(ONE_SHEET + "spirit s folds 0 cuts 9 price 1;cut s from a;", 3);
     sheet("wet by 1", x, 0, 1, 1);
     Check.same("not cut", x.count(9), 0);
     x.pass(1);
@@ -607,7 +601,7 @@ public final class MountainEdgesTest {
 
   /** A sheet of one beater is fibre + 2 thick: is it cut? */
   private static void thick(int folds, int fibre, int due) {
-    BarkMakers x = passed("bark a raw 500 fibre " + fibre + ";beater b hand 9 every 1;soak a by 60;beat b on a;spirit s folds " + folds
+    BarkMakers x = Check.passed("bark a raw 500 fibre " + fibre + ";beater b hand 9 every 1;soak a by 60;beat b on a;spirit s folds " + folds
         + " cuts 9 price 1;cut s from a;", 15);
     Check.same("cut with " + folds + " folds, " + (fibre + 2) + " thick", x.count(12) > 0 ? 1 : 0, due);
   }
@@ -632,7 +626,7 @@ public final class MountainEdgesTest {
 
   /** "the oldest sheet of the bark that" would do: not one of another bark, nor an older one that would not. */
   private static void cutTheOldest() {
-    BarkMakers x = Check.taught("bark a raw 20 fibre 1;" + PAIR + "spirit s folds 0 cuts 10 price 1;cut s from a;");
+    BarkMakers x = Check.taught("bark a raw 20 fibre 1;" + Check.PAIR + "spirit s folds 0 cuts 10 price 1;cut s from a;");
     x.setWeather(3);
     x.pass(2);
     x.setWeather(2);
@@ -640,7 +634,7 @@ public final class MountainEdgesTest {
     Check.same("one of two that are dry", x.count(9) * 10 + x.count(7), 11);
     Check.same("the oldest, mouldy by 3", x.figure(0, 1), 4);
     Check.same("the other one is mouldy by 2", x.sheet(0, 3), 2);
-    BarkMakers y = Check.taught("bark a raw 20 fibre 1;" + PAIR + "spirit s folds 0 cuts 10 price 1;cut s from a;");
+    BarkMakers y = Check.taught("bark a raw 20 fibre 1;" + Check.PAIR + "spirit s folds 0 cuts 10 price 1;cut s from a;");
     y.setTourists(0);
     y.setWeather(3);
     y.pass(4);
@@ -648,11 +642,11 @@ public final class MountainEdgesTest {
     y.pass(4);
     Check.same("the oldest is too mouldy", y.sheet(0, 3), 5);
     Check.same("so the next one is cut, mouldy by 4", y.figure(0, 1), 2);
-    BarkMakers z = passed("bark k raw 500 fibre 1;bark a raw 10 fibre 1;" + PAIR + "soak k by 60;beater d hand 9 every 1;beat d on k;"
+    BarkMakers z = Check.passed("bark k raw 500 fibre 1;bark a raw 10 fibre 1;" + Check.PAIR + "soak k by 60;beater d hand 9 every 1;beat d on k;"
         + "spirit s folds 4 cuts 10 price 1;cut s from a;", 12);
     Check.same("one of a is cut", z.bark(1, 4) * 10 + z.count(12), 1);
     Check.same("those of k are left", z.bark(0, 4), 10);
-    BarkMakers thin = passed("bark a raw 500 fibre 2;beater b hand 9 every 1;beater c hand 9 every 1;beat b on a;beat c on a when hour > 2;soak a by 60;"
+    BarkMakers thin = Check.passed("bark a raw 500 fibre 2;beater b hand 9 every 1;beater c hand 9 every 1;beat b on a;beat c on a when hour > 2;soak a by 60;"
         + "spirit s folds 4 cuts 10 price 1;cut s from a;", 7);
     Check.same("the oldest is too thick", thin.sheet(0, 1), 4);
     Check.same("a younger, thinner one is cut", thin.figure(0, 1), 50 - 3 * 4 - 2);
@@ -661,18 +655,18 @@ public final class MountainEdgesTest {
   /** An order of cut makes one figure an hour, and none without such a sheet. */
   private static void cutOneAnOrder() {
     String head = "bark a raw 20 fibre 1;beater b hand 9 every 1;beater c hand 9 every 1;soak a by 60;beat b on a;beat c on a;spirit s folds 0 cuts 9 price 1;";
-    Check.same("one of two", passed(head + "cut s from a;", 4).count(9), 1);
-    Check.same("both", passed(head + "cut s from a;", 5).count(9), 2);
-    Check.same("both by two orders", passed(head + "cut s from a;cut s from a;", 4).count(9), 2);
-    Check.same("no third one", passed(head + "cut s from a;cut s from a;cut s from a;", 7).count(12), 2);
-    Check.same("none without sheets", passed("bark a raw 20 fibre 1;spirit s folds 0 cuts 9 price 1;cut s from a;", 20).count(12), 0);
+    Check.same("one of two", Check.passed(head + "cut s from a;", 4).count(9), 1);
+    Check.same("both", Check.passed(head + "cut s from a;", 5).count(9), 2);
+    Check.same("both by two orders", Check.passed(head + "cut s from a;cut s from a;", 4).count(9), 2);
+    Check.same("no third one", Check.passed(head + "cut s from a;cut s from a;cut s from a;", 7).count(12), 2);
+    Check.same("none without sheets", Check.passed("bark a raw 20 fibre 1;spirit s folds 0 cuts 9 price 1;cut s from a;", 20).count(12), 0);
   }
 
   /** "its beauty is cuts * (folds + 1) - thick * folds - 2 * mouldy, at least 0": of a sheet 2 thick, mouldy by 1. */
   private static void beautyAtLeast0() {
     int[][] foldsCutsAndBeauty = {{0, 1, 0}, {0, 2, 0}, {0, 3, 1}, {0, 30, 28}, {1, 1, 0}, {1, 2, 0}, {1, 3, 2}, {4, 1, 0}, {4, 2, 0}, {4, 3, 5}, {4, 30, 140}};
     for (int[] due : foldsCutsAndBeauty) {
-      BarkMakers x = passed(ONE_SHEET + "spirit s folds " + due[0] + " cuts " + due[1] + " price 1;cut s from a;", 4);
+      BarkMakers x = Check.passed(ONE_SHEET + "spirit s folds " + due[0] + " cuts " + due[1] + " price 1;cut s from a;", 4);
       Check.same("beauty with " + due[0] + " folds, " + due[1] + " cuts", x.figure(0, 1), due[2]);
     }
   }
@@ -728,7 +722,7 @@ public final class MountainEdgesTest {
   private static void quarterOfBeauty() {
     int[] beauties = {0, 3, 4, 7, 8};
     for (int beauty : beauties) {
-      BarkMakers x = passed(ONE_SHEET + "spirit s folds 0 cuts " + (beauty + 2) + " price 9;cut s from a;", 7);
+      BarkMakers x = Check.passed(ONE_SHEET + "spirit s folds 0 cuts " + (beauty + 2) + " price 9;cut s from a;", 7);
       Check.same("beauty", x.figure(0, 1), beauty);
       Check.same("what is paid for beauty " + beauty, x.figure(0, 2), 9 + beauty / 4);
       Check.same("coins for beauty " + beauty, x.pass(1), 9 + beauty / 4);
@@ -774,10 +768,10 @@ public final class MountainEdgesTest {
     String[] hold = {"1 = 1 or 1 / 0 = 1", "1 / 0 = 0 and 0 / 0 = 0", "1 = 1 or 1 = 1 and 1 = 2", "1 = 2 and 1 = 1 or 1 = 1", "not 1 = 1 or 1 = 1", "not 1 = 2 and 1 = 1"};
     String[] fail = {"1 = 2 and 1 / 0 = 0", "1 = 2 or 1 / 0 = 1", "[1 = 1 or 1 = 1] and 1 = 2", "1 = 2 and [1 = 1 or 1 = 1]", "not [1 = 1 or 1 = 1]", "not 1 = 2 and 1 = 2", "not 1 = 1 and 1 = 2"};
     for (String test : hold) {
-      Check.same("when " + test, passed("bark a raw 1 fibre 1;soak a by 1 when " + test + ";", 1).bark(0, 1), 1);
+      Check.same("when " + test, Check.passed("bark a raw 1 fibre 1;soak a by 1 when " + test + ";", 1).bark(0, 1), 1);
     }
     for (String test : fail) {
-      Check.same("when " + test, passed("bark a raw 1 fibre 1;soak a by 1 when " + test + ";", 1).bark(0, 1), 0);
+      Check.same("when " + test, Check.passed("bark a raw 1 fibre 1;soak a by 1 when " + test + ";", 1).bark(0, 1), 0);
     }
   }
 }
