@@ -56,6 +56,7 @@ public final class LanguageEdgesTest {
     symbols();
     keywords();
     otherWordsAreNames();
+    sameByAllBytes();
     anyNumberOfLines();
     anyNumberOfTimes();
     whenOrNothing();
@@ -386,6 +387,35 @@ public final class LanguageEdgesTest {
         Check.fine("bark " + shorter + " raw 9 fibre 1;soak " + shorter + " by 1;");
       }
     }
+  }
+
+  /** Two words are the same name only if they have the same bytes, all of them. */
+  private static void sameByAllBytes() {
+    String signs = "abcdefghijklmnopqrstuvwxyz0123456789";
+    List<String> words = new ArrayList<>();
+    for (int first = 0; first < 26; first++) {
+      words.add(signs.substring(first, first + 1));
+      for (int second = 0; second < 36; second++) {
+        words.add("" + signs.charAt(first) + signs.charAt(second));
+      }
+    }
+    words.removeAll(List.of(KEYWORDS));
+    for (String name : new String[] {"a", "s", "z", "a0", "a9", "dl", "m0", "az", "ba", "z9", "zz"}) {
+      for (String other : words) {
+        sameName(name, other);
+      }
+    }
+    for (int at = 0; at < 10; at++) {
+      for (int sign = 0; sign < (at == 0 ? 26 : 36); sign++) {
+        sameName("abcdefghij", "abcdefghij".substring(0, at) + signs.charAt(sign) + "abcdefghij".substring(at + 1));
+      }
+    }
+  }
+
+  private static void sameName(String name, String other) {
+    String list = "bark " + name + " raw 9 fibre 1;bark ";
+    boolean same = name.equals(other);
+    Check.error(list + other + " raw 9 fibre 1;", same ? 2 : 0, same ? list.length() : -1);
   }
 
   // ---- grammar
